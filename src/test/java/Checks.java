@@ -1,0 +1,52 @@
+import java.util.Objects;
+import java.util.function.Supplier;
+
+/** Counts the calls whose answer is not the one that is due. */
+final class Checks {
+    private int wrong = 0;
+    private int asked = 0;
+
+    /** A call that may throw. */
+    interface Call {
+        Object make();
+    }
+
+    void due(String call, Object got, Object want) {
+        asked++;
+        if (!Objects.equals(got, want)) {
+            wrong++;
+            System.out.println(call + " answered " + got + ", due is " + want);
+        }
+    }
+
+    /** The answer as a text: its bits where it is a float or double, throws.Name where the call throws. */
+    static String answerOf(Call call) {
+        try {
+            Object answer = call.make();
+            if (answer instanceof Float f) {
+                return "float " + Integer.toHexString(Float.floatToIntBits(f));
+            }
+            if (answer instanceof Double d) {
+                return "double " + Long.toHexString(Double.doubleToLongBits(d));
+            }
+            return String.valueOf(answer);
+        } catch (RuntimeException e) {
+            return "throws." + e.getClass().getSimpleName();
+        }
+    }
+
+    /** The call throws just this exception, and leaves an object as its untouched twin is. */
+    void refused(String call, Supplier<Doorledger> setup, java.util.function.Function<Doorledger, Object> bad,
+            Class<? extends RuntimeException> due) {
+        Doorledger touched = setup.get();
+        due(call, answerOf(() -> bad.apply(touched)), "throws." + due.getSimpleName());
+        due("the portrait after " + call, Portrait.of(touched), Portrait.of(setup.get()));
+    }
+
+    void end() {
+        System.out.println(wrong == 0 ? asked + " answers are as due" : wrong + " of " + asked + " answers are not as due");
+        if (wrong != 0) {
+            System.exit(1);
+        }
+    }
+}
