@@ -31,8 +31,17 @@ final class Checks {
             }
             return String.valueOf(answer);
         } catch (RuntimeException e) {
-            return "throws." + e.getClass().getSimpleName();
+            return (isThrownByHand(e) ? "throws." : "machine.throws.") + e.getClass().getSimpleName();
         }
+    }
+
+    /** False where the machine threw (it tells of an index or a divisor), or the library. */
+    private static boolean isThrownByHand(RuntimeException e) {
+        StackTraceElement[] frames = e.getStackTrace();
+        String where = frames.length == 0 ? "" : frames[0].getClassName();
+        String told = e.getMessage() == null ? "" : e.getMessage();
+        boolean ours = where.startsWith("Doorledger") || where.startsWith("PlainModel");
+        return ours && !told.startsWith("Index ") && !told.startsWith("/ by zero");
     }
 
     /** The call throws just this exception, and leaves an object as its untouched twin is. */

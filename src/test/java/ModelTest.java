@@ -4,148 +4,167 @@ import java.util.Random;
 public final class ModelTest {
     private static final int RUNS = 1500;
     private static final int CALLS = 512;
-    private static final int KINDS = 38;
-    private static final int[] EDGES = {-1, 0, 1, 5, 8, 32, 60, 501, -501, 100000, 100001, Integer.MIN_VALUE, Integer.MAX_VALUE};
+    private static final int[] EDGES = {-1, 0, 1, 2, 3, 5, 8, 31, 32, 60, 500, 501, -500, -501,
+        10001, 99999, 100000, 100001, Integer.MIN_VALUE, Integer.MAX_VALUE};
 
     private final Checks checks;
     private final int run;
     private final Random random;
-    private final int asking;
+    /** The longest that this run passes at once: short ones meet many changes in a minute, long ones the end of time. */
     private final int longest;
     private final Doorledger x = new Doorledger();
     private final PlainModel m = new PlainModel();
+    private int doors = 0;
+    private int phones = 0;
+    private int keys = 0;
+    private int call = 0;
 
     private ModelTest(Checks checks, int run) {
         this.checks = checks;
         this.run = run;
         this.random = new Random(run);
-        this.asking = random.nextInt(90);
-        this.longest = new int[] {2, 20, 300, 10000}[random.nextInt(4)];
+        this.longest = new int[] {1, 5, 40, 1000, 10000}[random.nextInt(5)];
     }
 
     public static void main(String[] args) {
         Checks checks = new Checks();
         for (int run = 0; run < RUNS; run++) {
             ModelTest one = new ModelTest(checks, run);
-            for (int call = 0; call < CALLS; call++) {
-                one.step(call);
+            while (one.call < CALLS) {
+                one.step();
             }
         }
         checks.end();
     }
 
-    private int pick(int from, int to) {
-        if (random.nextInt(40) == 0) {
-            return EDGES[random.nextInt(EDGES.length)];
+    private void step() {
+        int part = random.nextInt(100);
+        if (call < 12 ? part < 80 : part < 3) {
+            add();
+        } else if (part < 10) {
+            change();
+        } else if (part < 50) {
+            happen();
+        } else if (part < 70) {
+            askDoor();
+        } else if (part < 90) {
+            askAudit();
+        } else {
+            askAll();
         }
-        return from + random.nextInt(to - from + 1);
     }
 
-    private int minute() {
-        int near = m.time() + random.nextInt(2 * longest + 1) - longest;
-        return random.nextInt(4) == 0 ? pick(0, 100000) : Math.max(0, near);
-    }
-
-    private void same(int call, String name, Checks.Call got, Checks.Call want) {
+    private void same(String name, Checks.Call got, Checks.Call want) {
         checks.due("run " + run + ", call " + call + ": " + name, Checks.answerOf(got), Checks.answerOf(want));
+        call++;
     }
 
-    private void step(int call) {
-        int kind = random.nextInt(100) < asking ? 10 + random.nextInt(KINDS - 10) : random.nextInt(14);
-        if (kind < 6) {
-            change(call, kind);
-        } else if (kind < 14) {
-            happen(call, kind);
-        } else if (kind < 25) {
-            askDoor(call, kind);
-        } else {
-            askAudit(call, kind);
+    /** Mostly one of those that there are. */
+    private int one(int of) {
+        return random.nextInt(50) == 0 || of == 0 ? EDGES[random.nextInt(EDGES.length)] : random.nextInt(of);
+    }
+
+    private int within(int from, int to) {
+        return random.nextInt(50) == 0 ? EDGES[random.nextInt(EDGES.length)] : from + random.nextInt(to - from + 1);
+    }
+
+    private int doorSet() {
+        return random.nextBoolean() ? 31 : within(0, 31);
+    }
+
+    private int start() {
+        int near = m.time() + random.nextInt(6 * longest + 1) - 5 * longest;
+        return random.nextInt(20) == 0 ? within(0, 100000) : Math.max(0, Math.min(99999, near));
+    }
+
+    private int endAfter(int start) {
+        int length = random.nextInt(3) == 0 ? random.nextInt(3) : random.nextInt(20 * longest) + 1;
+        return random.nextInt(20) == 0 ? within(0, 100000) : (int) Math.min(100000L, (long) start + length);
+    }
+
+    private void add() {
+        int set = doorSet();
+        int from = start();
+        int to = endAfter(from);
+        switch (random.nextInt(4)) {
+            case 0 -> same("addDoor", x::addDoor, m::addDoor);
+            case 1 -> same("addPhone", x::addPhone, m::addPhone);
+            default -> same("addKey", () -> x.addKey(set, from, to), () -> m.addKey(set, from, to));
+        }
+        doors = m.doors();
+        phones = m.phones();
+        keys = m.keys();
+    }
+
+    private void change() {
+        int key = one(keys);
+        int set = doorSet();
+        int from = start();
+        int to = endAfter(from);
+        switch (random.nextInt(7)) {
+            case 0 -> same("revoke", () -> x.revoke(key), () -> m.revoke(key));
+            case 1, 2, 3 -> same("setTimes", () -> x.setTimes(key, from, to), () -> m.setTimes(key, from, to));
+            default -> same("setDoors", () -> x.setDoors(key, set), () -> m.setDoors(key, set));
         }
     }
 
-    private void change(int call, int kind) {
-        int key = pick(0, 3);
-        int doors = pick(0, 31);
-        int from = minute();
-        int to = random.nextInt(10) == 0 ? from : minute() + longest;
-        switch (random.nextInt(8) == 0 ? kind : 5) {
-            case 0 -> same(call, "addKey", () -> x.addKey(doors, from, to), () -> m.addKey(doors, from, to));
-            case 1 -> same(call, "setTimes", () -> x.setTimes(key, from, to), () -> m.setTimes(key, from, to));
-            case 2 -> same(call, "setDoors", () -> x.setDoors(key, doors), () -> m.setDoors(key, doors));
-            case 3 -> revoke(call, key);
-            case 4 -> same(call, "addDoor", x::addDoor, m::addDoor);
-            default -> open(call);
+    private void happen() {
+        int phone = one(phones);
+        int door = one(doors);
+        int key = one(keys);
+        int minutes = within(1, longest);
+        int thousandths = within(-500, 500);
+        switch (random.nextInt(14)) {
+            case 0, 1, 2 -> same("pass", () -> x.pass(minutes), () -> m.pass(minutes));
+            case 3, 4, 5 -> same("meetCloud", () -> x.meetCloud(phone), () -> m.meetCloud(phone));
+            case 6, 7, 8 -> same("meetDoor", () -> x.meetDoor(phone, door), () -> m.meetDoor(phone, door));
+            case 9 -> same("setRate", () -> x.setRate(door, thousandths), () -> m.setRate(door, thousandths));
+            default -> same("open", () -> x.open(door, key), () -> m.open(door, key));
         }
     }
 
-    private void revoke(int call, int key) {
-        if (random.nextInt(3) == 0) {
-            same(call, "revoke", () -> x.revoke(key), () -> m.revoke(key));
-        } else {
-            same(call, "addPhone", x::addPhone, m::addPhone);
+    private void askDoor() {
+        int door = one(doors);
+        int key = one(keys);
+        int phone = one(phones);
+        switch (random.nextInt(11)) {
+            case 0 -> same("clock", () -> x.clock(door), () -> m.clock(door));
+            case 1 -> same("drifted", () -> x.drifted(door), () -> m.drifted(door));
+            case 2 -> same("driftedBits", () -> x.driftedBits(door), () -> m.driftedBits(door));
+            case 3 -> same("versionOf", () -> x.versionOf(door), () -> m.versionOf(door));
+            case 4 -> same("versionByReplay", () -> x.versionByReplay(door), () -> m.versionOf(door));
+            case 5 -> same("fromIn", () -> x.fromIn(door, key), () -> m.fromIn(door, key));
+            case 6 -> same("waiting", () -> x.waiting(door), () -> m.waiting(door));
+            case 7 -> same("breachesAt", () -> x.breachesAt(door), () -> m.breachesAt(door));
+            case 8 -> same("versionOn", () -> x.versionOn(phone), () -> m.versionOn(phone));
+            case 9 -> same("carried", () -> x.carried(phone), () -> m.carried(phone));
+            default -> same("answer", () -> x.answer(door, key), () -> m.answer(door, key));
         }
     }
 
-    private void open(int call) {
-        int door = pick(0, 2);
-        int key = pick(0, 3);
-        if (random.nextInt(3) == 0) {
-            same(call, "open", () -> x.open(door, key), () -> m.open(door, key));
-        } else {
-            same(call, "answer", () -> x.answer(door, key), () -> m.answer(door, key));
+    private void askAudit() {
+        int audit = one(m.audits());
+        switch (random.nextInt(7)) {
+            case 0 -> same("letterOf", () -> x.letterOf(audit), () -> m.letterOf(audit));
+            case 1 -> same("letterByList", () -> x.letterByList(audit), () -> m.letterOf(audit));
+            case 2 -> same("minuteOf", () -> x.minuteOf(audit), () -> m.minuteOf(audit));
+            case 3 -> same("versionAt", () -> x.versionAt(audit), () -> m.versionAt(audit));
+            case 4 -> same("hasArrived", () -> x.hasArrived(audit), () -> m.hasArrived(audit));
+            default -> same("isBreach", () -> x.isBreach(audit), () -> m.isBreach(audit));
         }
     }
 
-    private void happen(int call, int kind) {
-        int phone = pick(0, 1);
-        int door = pick(0, 2);
-        int thousandths = pick(-500, 500);
-        int minutes = pick(1, longest);
-        switch (kind) {
-            case 6, 7 -> same(call, "pass", () -> x.pass(minutes), () -> m.pass(minutes));
-            case 8 -> same(call, "meetCloud", () -> x.meetCloud(phone), () -> m.meetCloud(phone));
-            case 9 -> same(call, "meetDoor", () -> x.meetDoor(phone, door), () -> m.meetDoor(phone, door));
-            case 10 -> same(call, "time", x::time, m::time);
-            case 11 -> same(call, "version", x::version, m::version);
-            case 12 -> same(call, "isSound", x::isSound, () -> true);
-            default -> same(call, "setRate", () -> x.setRate(door, thousandths), () -> m.setRate(door, thousandths));
-        }
-    }
-
-    private void askDoor(int call, int kind) {
-        int door = pick(0, 2);
-        int key = pick(0, 3);
-        int phone = pick(0, 1);
-        switch (kind) {
-            case 14 -> same(call, "clock", () -> x.clock(door), () -> m.clock(door));
-            case 15 -> same(call, "drifted", () -> x.drifted(door), () -> m.drifted(door));
-            case 16 -> same(call, "driftedBits", () -> x.driftedBits(door), () -> m.driftedBits(door));
-            case 17 -> same(call, "versionOf", () -> x.versionOf(door), () -> m.versionOf(door));
-            case 18 -> same(call, "versionByReplay", () -> x.versionByReplay(door), () -> m.versionOf(door));
-            case 19 -> same(call, "fromIn", () -> x.fromIn(door, key), () -> m.fromIn(door, key));
-            case 20 -> same(call, "waiting", () -> x.waiting(door), () -> m.waiting(door));
-            case 21 -> same(call, "breachesAt", () -> x.breachesAt(door), () -> m.breachesAt(door));
-            case 22 -> same(call, "versionOn", () -> x.versionOn(phone), () -> m.versionOn(phone));
-            case 23 -> same(call, "carried", () -> x.carried(phone), () -> m.carried(phone));
-            default -> same(call, "answer", () -> x.answer(door, key), () -> m.answer(door, key));
-        }
-    }
-
-    private void askAudit(int call, int kind) {
-        int audit = pick(0, Math.max(0, m.audits() - 1));
-        switch (kind) {
-            case 25 -> same(call, "audits", x::audits, m::audits);
-            case 26 -> same(call, "letterOf", () -> x.letterOf(audit), () -> m.letterOf(audit));
-            case 27 -> same(call, "letterByList", () -> x.letterByList(audit), () -> m.letterOf(audit));
-            case 28 -> same(call, "minuteOf", () -> x.minuteOf(audit), () -> m.minuteOf(audit));
-            case 29 -> same(call, "versionAt", () -> x.versionAt(audit), () -> m.versionAt(audit));
-            case 30 -> same(call, "hasArrived", () -> x.hasArrived(audit), () -> m.hasArrived(audit));
-            case 31 -> same(call, "isBreach", () -> x.isBreach(audit), () -> m.isBreach(audit));
-            case 32 -> same(call, "breaches", x::breaches, m::breaches);
-            case 33 -> same(call, "delays", x::delays, m::delays);
-            case 34 -> same(call, "meanDelay", x::meanDelay, m::meanDelay);
-            case 35 -> same(call, "meanBits", x::meanBits, m::meanBits);
-            default -> same(call, "arrivedShare", x::arrivedShare, m::arrivedShare);
+    private void askAll() {
+        switch (random.nextInt(9)) {
+            case 0 -> same("version", x::version, m::version);
+            case 1 -> same("time", x::time, m::time);
+            case 2 -> same("audits", x::audits, m::audits);
+            case 3 -> same("delays", x::delays, m::delays);
+            case 4 -> same("meanDelay", x::meanDelay, m::meanDelay);
+            case 5 -> same("meanBits", x::meanBits, m::meanBits);
+            case 6 -> same("arrivedShare", x::arrivedShare, m::arrivedShare);
+            case 7 -> same("isSound", x::isSound, () -> true);
+            default -> same("breaches", x::breaches, m::breaches);
         }
     }
 }

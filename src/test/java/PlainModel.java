@@ -24,6 +24,18 @@ final class PlainModel {
         java.util.Arrays.fill(arrivals, -1);
     }
 
+    int doors() {
+        return doorLists.size();
+    }
+
+    int phones() {
+        return phoneLists.size();
+    }
+
+    int keys() {
+        return present().size();
+    }
+
     private static void need(boolean holds, RuntimeException otherwise) {
         if (!holds) {
             throw otherwise;

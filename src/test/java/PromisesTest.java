@@ -398,6 +398,13 @@ public final class PromisesTest {
         x.setRate(0, 500);
         x.pass(20);
         due("a fast clock is late", x.answer(0, 2), 'l');
+        x.pass(20);
+        due("'l' far behind the end", x.open(0, 2), 'l');
+        x.setRate(0, -500);
+        x.pass(1);
+        for (int audit = 0; audit < x.audits(); audit++) {
+            due("letterByList of old audit " + audit, x.letterByList(audit), x.letterOf(audit));
+        }
     }
 
     private static void letter(Doorledger x, int key, char want) {
@@ -474,6 +481,14 @@ public final class PromisesTest {
         x.addDoor();
         x.meetCloud(1);
         x.setDoors(0, 0);
+        x.addDoor();
+        x.addPhone();
+        due("versionOf a door added late", x.versionOf(2), 4);
+        x.meetDoor(2, 2);
+        due("a phone without a list leaves the door's", x.versionByReplay(2), 4);
+        due("versionByReplay of a door at version 0", x.versionByReplay(0), 0);
+        x.meetDoor(2, 0);
+        due("versionByReplay after a phone without a list", x.versionByReplay(0), 0);
         int[][] meetings = {{0, 0, 1}, {0, 1, 3}, {1, 0, 3}, {1, 1, 3}, {0, 0, 3}};
         for (int[] m : meetings) {
             x.meetDoor(m[0], m[1]);
@@ -543,6 +558,12 @@ public final class PromisesTest {
         due("letterByList(1)", x.letterByList(1), 'o');
         due("minuteOf(1)", x.minuteOf(1), 20);
         due("versionAt(1)", x.versionAt(1), 2);
+        x.setRate(1, 500);
+        x.pass(60);
+        x.open(1, 0);
+        due("minuteOf(2), when its clock is behind the end and the time is not", x.minuteOf(2), 110);
+        due("letterOf(2)", x.letterOf(2), 'l');
+        due("letterByList(2), by the clock", x.letterByList(2), 'l');
         for (int audit : new int[] {-1, 4, 60, Integer.MIN_VALUE, Integer.MAX_VALUE}) {
             checks.refused("letterOf " + audit, PromisesTest::busy, y -> y.letterOf(audit), ELEMENT);
             checks.refused("letterByList " + audit, PromisesTest::busy, y -> y.letterByList(audit), ELEMENT);
@@ -587,9 +608,24 @@ public final class PromisesTest {
         x.meetCloud(0);
         due("isBreach(3), its door taken in its minute", x.isBreach(3), true);
         due("breaches(), of both doors", x.breaches(), 3);
+        x.pass(200);
+        due("isBreach(2), when its times are over", x.isBreach(2), false);
+        due("breaches(), later", x.breaches(), 3);
         due("breachesAt(0)", x.breachesAt(0), 2);
         due("breachesAt(1)", x.breachesAt(1), 1);
         due("the letter r is no breach", breachOfRefusal(), false);
+        due("breaches(), only the first audit", firstIsBreach().breaches(), 1);
+        due("breachesAt(0), only the first audit", firstIsBreach().breachesAt(0), 1);
+        due("breachesAt(1), only the first audit", firstIsBreach().breachesAt(1), 0);
+    }
+
+    private static Doorledger firstIsBreach() {
+        Doorledger x = shop();
+        x.revoke(0);
+        x.open(0, 0);
+        x.meetDoor(0, 0);
+        x.meetCloud(0);
+        return x;
     }
 
     private static boolean breachOfRefusal() {
@@ -648,6 +684,7 @@ public final class PromisesTest {
         x.setTimes(0, 0, 1000);
         x.pass(1);
         x.revoke(0);
+        x.addKey(1, 0, 1000);
         x.pass(99);
         due("clock behind the cloud", x.clock(0), 100);
         x.open(0, 0);
@@ -745,6 +782,11 @@ public final class PromisesTest {
     private static void sound() {
         due("isSound() of a new one", fresh().isSound(), true);
         due("isSound() of a busy one", busy().isSound(), true);
+        Doorledger x = busy();
+        x.meetCloud(0);
+        due("isSound() when a phone has the present list", x.isSound(), true);
+        x.meetDoor(0, 0);
+        due("isSound() when a door has the present list", x.isSound(), true);
         due("isSound() with 60 audits", withAudits(60).isSound(), true);
         due("isSound() with 50 changes", withChanges(50).isSound(), true);
         due("isSound() with 8 keys", withKeys(8).isSound(), true);
