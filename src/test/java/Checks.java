@@ -1,21 +1,32 @@
 import java.util.Objects;
+import java.util.function.Function;
 import java.util.function.Supplier;
 
 /** Counts the calls whose answer is not the one that is due. */
 final class Checks {
     private int wrong = 0;
     private int asked = 0;
+    private String place = "";
 
     /** A call that may throw. */
     interface Call {
         Object make();
     }
 
+    /** What is told ahead of each wrong answer from now on. */
+    void place(String place) {
+        this.place = place;
+    }
+
+    int asked() {
+        return asked;
+    }
+
     void due(String call, Object got, Object want) {
         asked++;
         if (!Objects.equals(got, want)) {
             wrong++;
-            System.out.println(call + " answered " + got + ", due is " + want);
+            System.out.println(place + call + " answered " + got + ", due is " + want);
         }
     }
 
@@ -44,12 +55,14 @@ final class Checks {
         return ours && !told.startsWith("Index ") && !told.startsWith("/ by zero");
     }
 
-    /** The call throws just this exception, and leaves an object as its untouched twin is. */
-    void refused(String call, Supplier<Doorledger> setup, java.util.function.Function<Doorledger, Object> bad,
+    /** The call throws just this exception, and leaves an object as its untouched twin is, now and afterwards. */
+    void refused(String call, Supplier<Doorledger> setup, Function<Doorledger, Object> bad,
             Class<? extends RuntimeException> due) {
-        Doorledger touched = setup.get();
-        due(call, answerOf(() -> bad.apply(touched)), "throws." + due.getSimpleName());
-        due("the portrait after " + call, Portrait.of(touched), Portrait.of(setup.get()));
+        for (Function<Doorledger, String> part : Portrait.PARTS) {
+            Doorledger touched = setup.get();
+            due(call, answerOf(() -> bad.apply(touched)), "throws." + due.getSimpleName());
+            due("the portrait after " + call, part.apply(touched), part.apply(setup.get()));
+        }
     }
 
     void end() {

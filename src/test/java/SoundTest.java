@@ -1,36 +1,33 @@
-import java.lang.reflect.Field;
-import java.util.List;
-
 /** No call makes a ledger unsound, so this test spoils what it keeps: isSound must tell of it. */
 public final class SoundTest {
     private static final Checks checks = new Checks();
 
-    public static void main(String[] args) throws Exception {
+    public static void main(String[] args) {
         checks.due("isSound() when nothing is spoilt", ledger().isSound(), true);
         for (int door = 0; door < 2; door++) {
             spoilDoor(door);
         }
         for (int phone = 0; phone < 2; phone++) {
             Doorledger x = ledger();
-            set(part(x, "phones", phone), "version", 3);
+            Inside.spoil(x, "phones", phone, "version", 3);
             checks.due("isSound() when phone " + phone + " is ahead of the cloud", x.isSound(), false);
         }
         for (int audit = 0; audit < 2; audit++) {
             Doorledger x = ledger();
-            set(part(x, "audits", audit), "letter", 'e');
+            Inside.spoil(x, "audits", audit, "letter", 'e');
             checks.due("isSound() when the letter of audit " + audit + " is another", x.isSound(), false);
         }
         checks.end();
     }
 
-    private static void spoilDoor(int door) throws Exception {
+    private static void spoilDoor(int door) {
         Doorledger x = ledger();
-        set(part(x, "doors", door), "version", 1);
+        Inside.spoil(x, "doors", door, "version", 1);
         checks.due("versionByReplay of a spoilt door", x.versionByReplay(door), 2);
         checks.due("isSound() when door " + door + " is behind its meetings", x.isSound(), false);
         Doorledger y = ledger();
-        set(part(y, "doors", door), "firstVersion", 3);
-        set(part(y, "doors", door), "version", 3);
+        Inside.spoil(y, "doors", door, "firstVersion", 3);
+        Inside.spoil(y, "doors", door, "version", 3);
         checks.due("isSound() when door " + door + " is ahead of the cloud", y.isSound(), false);
     }
 
@@ -48,17 +45,5 @@ public final class SoundTest {
             x.open(i, 0);
         }
         return x;
-    }
-
-    private static Object part(Doorledger x, String list, int index) throws Exception {
-        Field field = Doorledger.class.getDeclaredField(list);
-        field.setAccessible(true);
-        return ((List<?>) field.get(x)).get(index);
-    }
-
-    private static void set(Object part, String name, Object value) throws Exception {
-        Field field = part.getClass().getDeclaredField(name);
-        field.setAccessible(true);
-        field.set(part, value);
     }
 }
